@@ -1145,13 +1145,13 @@ public final class CarriedHome {
         }
 
         int firstToDie(Realm now) {
-            int pardoned = now.menWhoAre(PARDONED);
             mind.become(now);
             for (int d = 0; d < MOST_DAYS; d++) {
                 mind.waitsOneDay();
-                int died = mind.menWhoAre(DEAD) & pardoned;
-                if (died != 0) {
-                    return Integer.numberOfTrailingZeros(died);
+                for (int m = 0; m < MEN; m++) {
+                    if (now.fateOf(m) == PARDONED && mind.fateOf(m) == DEAD) {
+                        return m;
+                    }
                 }
             }
             return NONE;

@@ -658,12 +658,16 @@ public final class PromisesTest {
         due("count(3)", x.count(3), 12);
         tell(x, "k12;");
         due("crown(0)", x.crown(0), 60);
+        due("crown(1)", told("m10;p0;k11;").crown(1), 1);
+        due("crown(1)", told("m30;p0;k11;").crown(1), -9);
+        due("crown(1)", told("m30;p0;k11;s110;").crown(1), 1);
         refused(x, 0, 0, 0, 1, 1);
     }
 
     private static void dig() {
         promise = "promise 20";
         CarriedHome x = told("m49;p0;s059;s089;");
+        due("dig(0)", x.dig(0), -9);
         due("dig(5)", x.dig(5), -9);
         due("dig(6)", x.dig(6), 5);
         due("dig(60)", x.dig(60), 5);
@@ -732,6 +736,13 @@ public final class PromisesTest {
         y.pardons(0);
         due("pairs(2)", y.pairs(2), 1);
         due("pairs(0)", y.pairs(0), 1);
+        // The fewest men, though a set of more men is of less bits.
+        CarriedHome few = told("m00;m00;m00;m29;m00;m00;m00;m00;p0;p1;p2;p3;p4;p5;p6;p7;l08;");
+        due("pairs(1)", few.pairs(1), 8);
+        few.loads(36);
+        due("pairs(1)", few.pairs(1), 255);
+        few.loads(37);
+        due("pairs(1)", few.pairs(1), -9);
         // Of the same size the least set, not the strongest.
         CarriedHome z = told("m00;m04;m06;m06;p0;p1;p2;p3;l09;");
         due("pairs(1)", z.pairs(1), 6);
@@ -807,6 +818,13 @@ public final class PromisesTest {
         // He is worn 7: 3 less 1 is more than nothing.
         due("two(0, 1, 12)", x.two(0, 1, 12), 1);
         due("two(0, 1, 11)", x.two(0, 1, 11), 0);
+        due("two(0, 1, 0)", x.two(0, 1, 0), 0);
+        // Worn 9 he has 3 less 2, which is still more than nothing.
+        due("two(0, 1, 12)", told("m49;m49;s000;s010;s020;").two(0, 1, 12), 1);
+        // Neither of two MEN does it alone, both do.
+        due("two(0, 1, 5)", told("m09;m09;k11;").two(0, 1, 5), 0);
+        // Who bears already has no say; he is worn whatever the two choose.
+        due("two(1, 2, 12)", told("m49;m00;m00;p0;").two(1, 2, 12), 0);
         due("two(0, 2, 12)", x.two(0, 2, 12), 10);
         due("two(2, 0, 12)", x.two(2, 0, 12), 1);
         due("two(0, 0, -1)", x.two(0, 0, -1), -1);
@@ -890,6 +908,10 @@ public final class PromisesTest {
         x.pardons(0);
         due("strongest(0)", x.strongest(0), 0);
         due("strongest(3)", x.strongest(3), 0);
+        x.slopes(1, 8);
+        due("strongest(1)", x.strongest(1), 1);
+        x.slopes(11, 9);
+        due("strongest(1)", x.strongest(1), 11);
         x.slopes(0, 9);
         due("strongest(1)", x.strongest(1), 0);
         tell(x, "k05;");
@@ -963,6 +985,9 @@ public final class PromisesTest {
         due("height(3)", x.height(3), -2);
         due("height(-1)", x.height(-1), -2);
         refused(x, 0, 2, 0, 0, 0);
+        CarriedHome even = told("m49;p0;l10;s068;s119;");
+        due("height(1)", even.height(1), 11);
+        due("height(1)", told("l01;").height(1), 0);
         // Waits of 2 and of 3 days: snow 7 and 6, then slope 7 with snow 4, 3 and 2.
         CarriedHome y = told("m49;p0;w7;s011;s025;");
         due("then(60, 2)", y.then(60, 2), 4);
@@ -1066,6 +1091,10 @@ public final class PromisesTest {
         }
         due("count(2)", x.count(2), 0);
         refused(x, 0, 2, 0, 2, 1);
+        CarriedHome late = told("m49;m49;p0;p1;l27;w9;"); // two unworn FEUDISTS, who go on as the snow goes
+        for (int z = 0; z < 8; z++) {
+            lotsByHand(late, 20, z);
+        }
         CarriedHome home = told("k12;");
         due("lots(20, 1, 0)", home.lots(20, 1, 0), 0);
     }
