@@ -742,6 +742,7 @@ public final class CarriedHome {
                     return ofFeudist;
                 case SILENT:
                     return worn[m] >= 10 ? ofFeudist / 2 : ofFeudist;
+                case MAN:
                 default:
                     return ofMan;
             }
@@ -764,6 +765,7 @@ public final class CarriedHome {
                     return isFeudAmong(bearers & ~(1 << m)) ? 0 : (steep + 1) / 2;
                 case SILENT:
                     return 1;
+                case MAN:
                 default:
                     return steep + 1;
             }
@@ -793,6 +795,7 @@ public final class CarriedHome {
                     return 5;
                 case SILENT:
                     return 2 * (figure[m] + 12);
+                case MAN:
                 default:
                     return 12;
             }

@@ -374,12 +374,17 @@ public final class BoundariesTest {
         for (int i = 0; i < 96; i++) {
             due("feed", x.feed(full.charAt(i)), i + 1);
         }
-        due("feed of 96", x.feed('d'), -6);
+        due("feed(0) of 96", x.feed(0), -6);
+        due("feed(255) of 96", x.feed(255), -6);
         due("count(7)", x.count(7), 96);
         due("reign()", x.reign(), 24);
         due("count(1)", x.count(1), 24);
         due("count(7)", x.count(7), 0);
-        due("feed", x.feed('d'), 1);
+        due("feed(0)", x.feed(0), 1);
+        due("feed(255)", x.feed(255), 2);
+        due("feed(256)", x.feed(256), -6);
+        due("feed(-1)", x.feed(-1), -4);
+        due("count(7)", x.count(7), 2);
         said("STATEMENTS, each with \";\" behind");
         reigns("w1", -1002);
         reigns("w1w1;", -1002);
@@ -684,6 +689,13 @@ public final class BoundariesTest {
         due("fewest(1)", told("k11;m00;m09;m09;m09;l17;").fewest(1), 14);
         due("fewest(1)", told("k11;m08;m09;m09;m09;l13;").fewest(1), 3);
         due("fewest(60)", new CarriedHome().fewest(60), -9);
+        String eight = "m00;m00;m00;m00;m00;m00;m00;m00;k11;";
+        due("fewest(1)", told(eight + "l02;").fewest(1), 1);
+        due("fewest(1)", told(eight + "l03;").fewest(1), 3);
+        due("fewest(1)", told(eight + "l20;").fewest(1), 127);
+        due("fewest(1)", told(eight + "l21;").fewest(1), 255);
+        due("fewest(1)", told(eight + "l23;").fewest(1), 255);
+        due("fewest(1)", told(eight + "l24;").fewest(1), -9);
         due("fewest(1)", told("m39;m19;p0;l01;s002;d02;k11;").fewest(1), 2);
         due("fewest(1)", told("m39;p0;l01;s002;d02;k11;").fewest(1), -9);
     }
@@ -772,6 +784,11 @@ public final class BoundariesTest {
         due("pairs(1)", told("m00;m09;m09;p0;p1;p2;l13;").pairs(1), 6);
         due("pairs(1)", told("m00;m09;m09;p0;p1;p2;l16;").pairs(1), 7);
         due("pairs(1)", told("m00;m09;m09;p0;p1;p2;l17;").pairs(1), -9);
+        String eight = "m00;m00;m00;m00;m00;m00;m00;m00;p0;p1;p2;p3;p4;p5;p6;p7;";
+        due("pairs(1)", told(eight + "l01;s000;").pairs(1), 1);
+        due("pairs(1)", told(eight + "l20;").pairs(1), 127);
+        due("pairs(1)", told(eight + "l21;").pairs(1), 255);
+        due("pairs(1)", told(eight + "l24;").pairs(1), -9);
         said("OWES: how many PARDONED have borne (WORN above 0).");
         due("pairs(2)", new CarriedHome().pairs(2), 0);
         CarriedHome x = told("m49;m19;p0;p1;s000;s010;l23;");
@@ -859,6 +876,10 @@ public final class BoundariesTest {
         due("two(0, 1, 12)", told("m49;m00;").two(0, 1, 12), 0);
         due("two(0, 1, 12)", told("m49;m00;s005;s000;").two(0, 1, 12), 10);
         due("two(0, 1, 11)", told("m49;m00;s000;").two(0, 1, 11), 0);
+        due("two(0, 1, 12)", told("m00;m49;s000;").two(0, 1, 12), 1);
+        due("two(0, 1, 12)", told("m00;m49;").two(0, 1, 12), 0);
+        due("two(0, 1, 11)", told("m00;m49;s000;").two(0, 1, 11), 0);
+        due("two(0, 1, 8)", told("m00;m49;p1;l01;d08;p1;k04;l12;").two(0, 1, 8), 1);
         // He has -2 of WORN 8 ahead, nothing more of WORN 16: 3 less 4 is more than -2.
         due("two(0, 1, 8)", told("m49;m00;p0;l01;d08;p0;k04;l12;").two(0, 1, 8), 10);
     }
@@ -946,6 +967,7 @@ public final class BoundariesTest {
                 lots("m49;m49;p0;p1;l20;w9;k05;", n, z);
                 lots("m39;m00;p0;l01;s002;d02;p1;", n, z);
                 lots("m59;m29;p0;p1;l09;k11;", n, z);
+                lots("m49;m49;p0;p1;l27;w9;", n, z);
             }
         }
         due("lots(20, 3, 0) at home", told("m49;p0;k12;").lots(20, 3, 0), 0);
